@@ -262,6 +262,14 @@ public final class PromiseTest {
         due("9 refusals change nothing", tower.count(4), 0);
         dueColours("9 refusals change nothing", tower, 0, "abcdef");
         due("9 clashes then", tower.turn(0, 2), 1);
+        // More calls than an object has to stand, but the only way to the bound that the promise names.
+        for (int turns = 2; turns <= 999; turns++) {
+            tower.turn(0, 0);
+        }
+        due("9 turns at most", tower.count(4), 999);
+        due("9 one more", tower.turn(0, 0), FULL);
+        due("9 STATE before FULL", tower.turn(1, 0), STATE);
+        due("9 one more is not counted", tower.count(4), 999);
     }
 
     private static void promise10Paint() {
