@@ -10,7 +10,7 @@ public final class ModelTest {
     private final Model model = new Model();
     private final StringBuilder told = new StringBuilder();
     private final int colours;
-    /** Plain cubes only now and then: the model tries all of their ways. */
+    /** Plain cubes only in some runs: the model tries all of their ways, and that takes long. */
     private final boolean plain;
 
     private ModelTest(Check check, int seed) {
@@ -186,7 +186,7 @@ public final class ModelTest {
                 ask();
             } else if (part < 11) {
                 change();
-            } else if (part < 15 && (!plain || upTo(5) == 0)) {
+            } else if (part < 15) {
                 search();
             } else {
                 watch();
