@@ -302,7 +302,7 @@ public final class PromiseTest {
         CubeTower tower = Check.read("cabcdef,saabbcc,fabdddd");
         tower.turn(0, 0);
         tower.see(0, 1, true);
-        due("11 clashes", tower.swap(0, 2), tower.count(1));
+        due("11 clashes", tower.swap(0, 2), 2);
         due("11 kind", tower.cube(0, 0), 3);
         due("11 kind of the other", tower.cube(2, 0), 0);
         dueColours("11 it lies as it did", tower, 2, "abfecd");
