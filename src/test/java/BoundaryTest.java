@@ -364,6 +364,34 @@ public final class BoundaryTest {
         CHECK.due("9 none was turned in another TOWER", full.turn(0, 0), 0);
     }
 
+    /** A TURN often enough brings each SIDE to where it was, and not before. */
+    private static void promise9WrapsAround() {
+        for (int turn = 0; turn < 4; turn++) {
+            for (int times = 1; times <= 4; times++) {
+                dueBack("9 a plain CUBE", "cabcdef,fffffff", turn, times, times == 4);
+                if (turn < 2) {
+                    dueBack("9 a SPINNER", "sabcdef,fffffff", turn, times, times == 4);
+                    dueBack("9 a HALF", "habcdef,fffffff", turn, times, times % 2 == 0);
+                } else {
+                    dueBack("9 a TIPPER", "tabcdef,fffffff", turn, times, times == 4);
+                }
+            }
+        }
+    }
+
+    private static void dueBack(String sentence, String text, int turn, int times, boolean back) {
+        CubeTower tower = Check.read(text);
+        for (int time = 0; time < times; time++) {
+            tower.turn(0, turn);
+        }
+        boolean asItLay = true;
+        for (int side = 0; side < 6; side++) {
+            asItLay &= tower.cube(0, 10 + side) == side;
+        }
+        CHECK.due(sentence + ", turn " + turn + ", " + times + " times", asItLay ? 1 : 0, back ? 1 : 0);
+        CHECK.due(sentence + ", so many TURNS", tower.count(4), times);
+    }
+
     private static void promise10Paint() {
         taken("10 side 0, colour 0", BoundaryTest::three, t -> t.paint(2, 0, 0), 5);
         taken("10 side 5, colour 5", BoundaryTest::three, t -> t.paint(2, 5, 5), 3);
@@ -703,6 +731,7 @@ public final class BoundaryTest {
         promise7As();
         promise8Wall();
         promise9Turn();
+        promise9WrapsAround();
         promise10Paint();
         promise11Swap();
         promise12Be();
