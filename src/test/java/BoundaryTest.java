@@ -33,11 +33,10 @@ public final class BoundaryTest {
     private static List<Long> answersFromThenOn(CubeTower tower) {
         List<Long> answers = new ArrayList<>();
         answers.add(tower.digest());
-        answers.add((long) tower.repaint());
-        answers.add((long) tower.see(0, 1, true));
-        answers.add((long) tower.cube(0, 2));
         answers.add((long) tower.restore());
         answers.add(tower.digest());
+        // What may be refused to both of them comes late, or it would do to both what one refusal did.
+        answers.add((long) tower.repaint());
         answers.add((long) tower.see(1, 0, false));
         answers.add((long) tower.forget());
         answers.add((long) tower.turn(0, 0));
