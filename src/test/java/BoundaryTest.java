@@ -116,7 +116,6 @@ public final class BoundaryTest {
         return tower;
     }
 
-    /** Takes more calls than an object has to stand, but there is no other way to the 999. */
     private static CubeTower turned(int times) {
         CubeTower tower = two();
         for (int time = tower.count(4); time < times; time++) {
@@ -339,7 +338,6 @@ public final class BoundaryTest {
         for (int turn : wrong(4)) {
             refused("9 OUTSIDE: turn " + turn, BoundaryTest::two, t -> t.turn(0, turn), OUTSIDE);
             refused("9 OUTSIDE before STATE", BoundaryTest::two, t -> t.turn(1, turn), OUTSIDE);
-            refused("9 OUTSIDE before FULL", () -> turned(999), t -> t.turn(0, turn), OUTSIDE);
         }
         String[] able = {"1111", "1100", "0011", "0000", "1100"};
         for (int kind = 0; kind < 5; kind++) {
@@ -353,9 +351,18 @@ public final class BoundaryTest {
                 }
             }
         }
+        taken("9 as many as 512 calls leave room for", () -> turned(480), t -> t.turn(0, 0), 0);
+    }
+
+    /**
+     * No object comes to 999 TURNS in its 512 calls, and what later calls answer is free; the class
+     * keeps to the promise's own number all the same.
+     */
+    private static void promise9BeyondAllCalls() {
         taken("9 the 999th", () -> turned(998), t -> t.turn(0, 0), 0);
         refused("9 FULL: 999 were", () -> turned(999), t -> t.turn(0, 0), FULL);
         refused("9 UNKNOWN before FULL", () -> turned(999), t -> t.turn(2, 0), UNKNOWN);
+        refused("9 OUTSIDE before FULL", () -> turned(999), t -> t.turn(0, 4), OUTSIDE);
         refused("9 STATE before FULL", () -> turned(999), t -> t.turn(1, 0), STATE);
         refused("9 STATE before FULL", () -> turned(999), t -> t.turn(0, 2), STATE);
         CubeTower full = turned(999);
@@ -627,7 +634,7 @@ public final class BoundaryTest {
         for (int what = 0; what < 3; what++) {
             int number = what;
             refusedWithoutTower("19 STATE", t -> t.runs(1, 0, number), STATE);
-            }
+        }
         CubeTower tower = three();
         long digest = tower.digest();
         tower.runs(99, 7, 0);
@@ -638,7 +645,7 @@ public final class BoundaryTest {
         refusedWithoutTower("20 STATE", CubeTower::image, STATE);
         taken("20 no TURNS", () -> Check.read(TWO), CubeTower::image, 0);
         taken("20 one TURN", BoundaryTest::withoutImage, CubeTower::image, 1);
-        taken("20 as many as there can be", () -> turned(999), CubeTower::image, 999);
+        taken("20 as many as there can be", () -> turned(480), CubeTower::image, 480);
         CubeTower tower = three();
         long digest = tower.digest();
         tower.image();
@@ -730,6 +737,7 @@ public final class BoundaryTest {
         promise7As();
         promise8Wall();
         promise9Turn();
+        promise9BeyondAllCalls();
         promise9WrapsAround();
         promise10Paint();
         promise11Swap();

@@ -2,7 +2,9 @@ import java.util.Random;
 
 /** Runs of calls drawn by a seed, each answered by the program and by the model. */
 public final class ModelTest {
-    private static final int RUNS = 400, CALLS = 70;
+    private static final int RUNS = 400, STEPS = 70;
+    /** An object has to stand so many calls; one step takes some thirty at most. */
+    private static final int MOST_CALLS = 512, MOST_CALLS_OF_STEP = 32;
 
     private final Check check;
     private final Random random;
@@ -12,15 +14,20 @@ public final class ModelTest {
     private final int colours;
     /** Plain cubes only in some runs: the model tries all of their ways, and that takes long. */
     private final boolean plain;
+    /** Whether the run goes on to the last call that an object has to stand. */
+    private final boolean toTheLast;
+    private int calls;
 
     private ModelTest(Check check, int seed) {
         this.check = check;
         random = new Random(seed);
         colours = 2 + random.nextInt(5);
         plain = seed % 8 == 0;
+        toTheLast = seed % 9 == 0;
     }
 
     private void same(String call, long got, long want) {
+        calls++;
         told.append(' ').append(call);
         check.due(told.toString(), got, want);
     }
@@ -177,22 +184,32 @@ public final class ModelTest {
         }
     }
 
+    private void step() {
+        int part = upTo(19);
+        if (part < 2) {
+            page();
+        } else if (part < 5) {
+            ask();
+        } else if (part < 11) {
+            change();
+        } else if (part < 15) {
+            search();
+        } else {
+            watch();
+        }
+    }
+
     private void go() {
-        for (int call = 0; call < CALLS && check.allRight(); call++) {
-            int part = upTo(19);
-            if (part < 2) {
-                page();
-            } else if (part < 5) {
-                ask();
-            } else if (part < 11) {
-                change();
-            } else if (part < 15) {
-                search();
-            } else {
-                watch();
-            }
+        int steps = toTheLast ? MOST_CALLS : STEPS;
+        int room = MOST_CALLS - MOST_CALLS_OF_STEP;
+        for (int step = 0; step < steps && calls < room && check.allRight(); step++) {
+            step();
+        }
+        while (toTheLast && calls < MOST_CALLS - 1 && check.allRight()) {
+            change();
         }
         same("digest()", tower.digest(), model.digest());
+        check.due("calls of one object at most", Math.max(calls, MOST_CALLS), MOST_CALLS);
     }
 
     public static void main(String[] args) {
